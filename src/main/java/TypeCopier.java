@@ -801,27 +801,17 @@ public final class TypeCopier {
             return Shape.withLetters(functions.resultShape(g), t, u);
         }
 
+        /** As parts stand ahead of what they are of, the least that is WRONG has none that is. */
         int leastWrong(int f) {
             nodes.meetUnder(functions.bodyOf(f));
             int least = NONE;
             for (int i = 0; i < nodes.metSize(); i++) {
                 int n = nodes.metAt(i);
-                boolean less = least == NONE || n < least;
-                if (less && shapeIn(f, n) == Shape.NOT && noPartIsWrong(f, n)) {
+                if (shapeIn(f, n) == Shape.NOT && (least == NONE || n < least)) {
                     least = n;
                 }
             }
             return least;
-        }
-
-        private boolean noPartIsWrong(int f, int n) {
-            int parts = nodes.partsOf(nodes.kindOf(n));
-            for (int i = 0; i < parts; i++) {
-                if (partShape(f, n, i) == Shape.NOT) {
-                    return false;
-                }
-            }
-            return true;
         }
 
         int judgeProgram() {

@@ -31,6 +31,7 @@ public final class PromiseTests {
         copyFacts();
         inputs();
         argumentsAndResults();
+        wideValues();
         runs();
         outcomes();
         steps();
@@ -194,6 +195,10 @@ public final class PromiseTests {
         due("4 wide", x.pair(5, 5), 6);
         due("4 wide", x.pair(6, 6), 7);
         due("4 width 16", x.type(7, 4), 16);
+        due("4 list of INT", x.list(0), 8);
+        due("4 its depth", x.type(8, 3), 2);
+        due("4 list of that", x.list(8), 9);
+        due("4 its depth", x.type(9, 3), 3);
     }
 
     // ---- promises 5 to 7
@@ -246,6 +251,10 @@ public final class PromiseTests {
         due("5 depth 13, second part", on(x, 6, 0, at), NO);
         due("5 depth 13, third part", choose(x, 0, 0, at), NO);
         due("5 depth 13, call", call(x, 0, at, NONE, NONE), NO);
+        due("5 deep ones that are not wanted", x.node(7, 0, at, at, at), x.count(1) - 1);
+        due("5 deep ones that are not wanted", x.node(6, 0, 0, at, at), x.count(1) - 1);
+        due("5 deep ones that are not wanted", x.node(9, at % 4, at, at, at), x.count(1) - 1);
+        due("5 deep ones that are not wanted", x.node(0, at, at, at, at), x.count(1) - 1);
         due("5 bad before deep", choose(x, 0, at, 500), BAD);
         while (x.count(1) < 200) {
             number(x, 1);
@@ -418,7 +427,13 @@ public final class PromiseTests {
         x.function(2, 2, 2);
         due("8 unused letter is not the caller's", x.typeIn(0, call(x, 3, n, 0, 3)), NONE);
         due("8 unused letter", x.typeIn(0, call(x, 3, n, 0, 1)), 0);
+        due("8 letters that are in no type", x.typeIn(0, call(x, x.function(1, 0, 0), n, NONE, NONE)), NONE);
+        due("8 letters that are in no type", x.typeIn(0, call(x, 4, n, 0, 0)), NONE);
+        due("8 letters that are in no type", x.typeIn(0, call(x, 4, n, 1, NONE)), 0);
+        due("8 types for no letters", x.typeIn(0, call(x, 0, n, 0, NONE)), NONE);
         int deep = x.list(x.list(x.list(listInt)));
+        int takesList = x.function(1, listA, 0);
+        due("8 argument wrong, and too deep", x.typeIn(0, call(x, takesList, on(x, 7, n), deep, NONE)), NONE);
         int f = x.function(0, deep, 0);
         due("8 result too deep", x.typeIn(f, call(x, 2, a, deep, NONE)), NONE);
         due("8 result not too deep", x.typeIn(f, call(x, 2, on(x, 12, a), x.type(deep, 1), NONE)), deep);
@@ -454,6 +469,11 @@ public final class PromiseTests {
         int later = call(x, 1, n, NONE, NONE);
         x.body(0, later);
         due("9 call of none", x.wrong(0), later);
+        TypeCopier y = new TypeCopier();
+        on(y, 9, 2);
+        y.function(0, 0, 0);
+        y.body(0, number(y, 1));
+        due("9 the first node is not in it", y.wrong(0), NONE);
         x.function(0, 0, 0);
         due("9 call of one", x.wrong(0), NONE);
     }
@@ -567,6 +587,8 @@ public final class PromiseTests {
         due("11 round without letters", x.judge(), 0);
         x.body(3, on(x, 3, a, call(x, 1, a, 0, NONE)));
         due("11 round over one with letters", x.judge(), 4);
+        x.body(0, call(x, 1, a, 0, NONE));
+        due("11 round, 0 gives a type", x.judge(), 4);
     }
 
     // ---- promises 12 and 13
@@ -845,6 +867,81 @@ public final class PromiseTests {
             all[i] = 4;
         }
         echo(x, type, given, all);
+    }
+
+    /** Gives the input, and looks at the whole result of both runs. */
+    private static void bothTell(TypeCopier x, String name, int... want) {
+        for (int turn = 0; turn < 2; turn++) {
+            due(name + ", outcome", turn == 0 ? x.run() : x.runCopies(), 0);
+            due(name + ", how many", x.told(0), want.length);
+            for (int i = 0; i < want.length; i++) {
+                due(name + ", turn " + turn + ", entry " + i, x.result(i), want[i]);
+            }
+        }
+    }
+
+    private static void wideValues() {
+        TypeCopier x = new TypeCopier();
+        int three = x.pair(0, x.pair(0, 1));
+        int two = x.pair(0, 0);
+        int twos = x.list(two);
+        int start = x.pair(three, twos);
+        int pairAB = x.pair(2, 3);
+        int pairBA = x.pair(3, 2);
+        int end = x.pair(twos, three);
+        x.function(0, start, end);
+        x.function(2, pairAB, pairBA);
+        x.function(0, start, x.pair(x.pair(0, 1), three));
+        for (int v : new int[] {11, 12, 1, 2, 21, 22, 31, 32}) {
+            x.input(v);
+        }
+        int a = argument(x);
+        int first = on(x, 7, a);
+        int second = on(x, 8, a);
+        x.body(1, on(x, 6, second, first));
+        x.body(0, call(x, 1, a, three, twos));
+        bothTell(x, "swapped at wide types", 2, 21, 22, 31, 32, 11, 12, 1);
+        int there = call(x, 1, a, three, twos);
+        int back = call(x, 1, there, twos, three);
+        x.body(0, call(x, 1, back, three, twos));
+        bothTell(x, "and back, and again", 2, 21, 22, 31, 32, 11, 12, 1);
+        int head = on(x, 12, second);
+        int turned = on(x, 6, on(x, 8, head), on(x, 7, head));
+        int links = on(x, 10, turned, on(x, 13, second));
+        x.body(0, on(x, 6, on(x, 10, head, links), first));
+        bothTell(x, "links of wide values", 3, 21, 22, 22, 21, 31, 32, 11, 12, 1);
+        int made = on(x, 6, on(x, 7, on(x, 12, on(x, 13, second))), on(x, 8, first));
+        x.body(0, on(x, 6, second, made));
+        bothTell(x, "parts of parts", 2, 21, 22, 31, 32, 31, 12, 1);
+        int chosen = choose(x, on(x, 8, on(x, 8, made)), made, first);
+        x.body(0, on(x, 6, on(x, 9, two), chosen));
+        bothTell(x, "chosen", 0, 31, 12, 1);
+        x.body(2, on(x, 6, on(x, 8, first), made));
+        int called = call(x, 2, a, NONE, NONE);
+        x.body(0, on(x, 6, on(x, 10, on(x, 7, on(x, 6, on(x, 6, number(x, 5), number(x, 6)), called)), second), on(x, 8, called)));
+        bothTell(x, "parts of what is called", 3, 5, 6, 21, 22, 31, 32, 31, 12, 1);
+        sixteenCells();
+    }
+
+    private static void sixteenCells() {
+        TypeCopier y = new TypeCopier();
+        int pairII = y.pair(0, 0);
+        int four = y.pair(pairII, pairII);
+        int eight = y.pair(four, four);
+        int sixteen = y.pair(eight, eight);
+        y.function(0, 0, sixteen);
+        y.function(1, 2, y.pair(2, 2));
+        int a = argument(y);
+        y.body(1, on(y, 6, a, a));
+        int d = call(y, 1, a, 0, NONE);
+        d = on(y, 6, on(y, 7, d), on(y, 3, number(y, 1), on(y, 8, d)));
+        d = call(y, 1, call(y, 1, call(y, 1, d, pairII, NONE), four, NONE), eight, NONE);
+        y.body(0, d);
+        y.input(8);
+        due("12 copies at each width", y.copies(), 5);
+        due("13 widths", y.copy(2, 3) * 100 + y.copy(2, 4), 204);
+        due("13 widths", y.copy(4, 3) * 100 + y.copy(4, 4), 816);
+        bothTell(y, "sixteen cells", 8, 9, 8, 9, 8, 9, 8, 9, 8, 9, 8, 9, 8, 9, 8, 9);
     }
 
     private static void runs() {
