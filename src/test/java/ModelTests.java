@@ -4,6 +4,7 @@ import java.util.HashMap;
 import java.util.List;
 import java.util.Map;
 import java.util.TreeSet;
+import java.util.function.LongSupplier;
 
 /**
  * The document written down a second time, in the simplest way (types are texts, values are objects, a run
@@ -739,9 +740,14 @@ public final class ModelTests {
             return (int) Long.remainderUnsigned(state >>> 33, bound);
         }
 
-        void same(String call, long got, long want) {
+        /** Asks no more than the document promises answers for. */
+        void same(String call, LongSupplier asked, long want) {
+            if (calls >= CALLS) {
+                return;
+            }
             calls++;
             made.add(call);
+            long got = asked.getAsLong();
             if (got != want) {
                 tally.wrong++;
                 System.out.println("seed " + seed + ", call " + calls + ": " + call + " answered " + got + ", due is " + want);
@@ -1209,32 +1215,32 @@ public final class ModelTests {
 
         int pair(int t, int u) {
             int want = m.type(t) && m.type(u) ? m.add(pairOf(m.types.get(t), m.types.get(u))) : BAD;
-            same("pair(" + t + ", " + u + ")", x.pair(t, u), want);
+            same("pair(" + t + ", " + u + ")", () -> x.pair(t, u), want);
             tally.meet("pair " + want);
             return Math.max(0, want);
         }
 
         int list(int t) {
             int want = m.type(t) ? m.add(listOf(m.types.get(t))) : BAD;
-            same("list(" + t + ")", x.list(t), want);
+            same("list(" + t + ")", () -> x.list(t), want);
             return Math.max(0, want);
         }
 
         void type(int t, int what) {
-            same("type(" + t + ", " + what + ")", x.type(t, what), m.factOf(t, what));
+            same("type(" + t + ", " + what + ")", () -> x.type(t, what), m.factOf(t, what));
         }
 
         int node(int kind, int a, int b, int c, int d) {
             int want = m.addNode(kind, a, b, c, d);
             int[] row = {kind, a, b, c, d};
-            same("node" + Arrays.toString(row), x.node(kind, a, b, c, d), want);
+            same("node" + Arrays.toString(row), () -> x.node(kind, a, b, c, d), want);
             tally.meet("node " + want);
             return want;
         }
 
         void function(int letters, int argument, int result) {
             int want = m.addFn(letters, argument, result);
-            same("function(" + letters + ", " + argument + ", " + result + ")", x.function(letters, argument, result), want);
+            same("function(" + letters + ", " + argument + ", " + result + ")", () -> x.function(letters, argument, result), want);
             tally.meet("function " + want);
         }
 
@@ -1243,40 +1249,40 @@ public final class ModelTests {
             if (want == 1) {
                 m.bodies.put(f, n);
             }
-            same("body(" + f + ", " + n + ")", x.body(f, n), want);
+            same("body(" + f + ", " + n + ")", () -> x.body(f, n), want);
         }
 
         void typeIn(int f, int n) {
             int want = m.fn(f) && m.node(n) ? m.tell(m.typeIn(f, n)) : BAD;
-            same("typeIn(" + f + ", " + n + ")", x.typeIn(f, n), want);
+            same("typeIn(" + f + ", " + n + ")", () -> x.typeIn(f, n), want);
             tally.meet("typeIn " + want);
         }
 
         void wrong(int f) {
-            same("wrong(" + f + ")", x.wrong(f), m.wrong(f));
+            same("wrong(" + f + ")", () -> x.wrong(f), m.wrong(f));
             tally.meet("wrong " + m.wrong(f));
         }
 
         void reaches(int f, int g) {
             int want = m.fn(f) && m.fn(g) ? (m.reached(f).contains(g) ? 1 : 0) : BAD;
-            same("reaches(" + f + ", " + g + ")", x.reaches(f, g), want);
+            same("reaches(" + f + ", " + g + ")", () -> x.reaches(f, g), want);
         }
 
         void judge() {
             int want = m.judge();
-            same("judge()", x.judge(), want);
+            same("judge()", () -> x.judge(), want);
             tally.meet("judge " + want);
         }
 
         void copies() {
             int want = m.copies();
-            same("copies()", x.copies(), want);
+            same("copies()", () -> x.copies(), want);
             tally.meet("copies " + want);
         }
 
         void copy(int i, int what) {
             int want = m.copy(i, what);
-            same("copy(" + i + ", " + what + ")", x.copy(i, what), want);
+            same("copy(" + i + ", " + what + ")", () -> x.copy(i, what), want);
             tally.meet("copy " + what + " " + want);
         }
 
@@ -1286,42 +1292,42 @@ public final class ModelTests {
                 m.row.add(v);
                 want = m.row.size();
             }
-            same("input(" + v + ")", x.input(v), want);
+            same("input(" + v + ")", () -> x.input(v), want);
             tally.meet("input " + want);
         }
 
         void empty() {
             int want = m.row.size();
             m.row.clear();
-            same("empty()", x.empty(), want);
+            same("empty()", () -> x.empty(), want);
         }
 
         int run() {
             int want = m.run();
-            same("run()", x.run(), want);
+            same("run()", () -> x.run(), want);
             return want;
         }
 
         int runCopies() {
             int want = m.runCopies();
-            same("runCopies()", x.runCopies(), want);
+            same("runCopies()", () -> x.runCopies(), want);
             return want;
         }
 
         void result(int i) {
-            same("result(" + i + ")", x.result(i), m.result(i));
+            same("result(" + i + ")", () -> x.result(i), m.result(i));
         }
 
         void told(int what) {
-            same("told(" + what + ")", x.told(what), m.told(what));
+            same("told(" + what + ")", () -> x.told(what), m.told(what));
         }
 
         void count(int what) {
-            same("count(" + what + ")", x.count(what), m.count(what));
+            same("count(" + what + ")", () -> x.count(what), m.count(what));
         }
 
         void digest() {
-            same("digest()", x.digest(), m.digest());
+            same("digest()", () -> x.digest(), m.digest());
         }
     }
 }

@@ -46,40 +46,10 @@ public final class PromiseTests {
         }
     }
 
-    // ---- short ways to write nodes
-
-    private static int number(TypeCopier x, int n) {
-        return x.node(0, n, 0, 0, 0);
-    }
-
-    private static int truth(TypeCopier x, int n) {
-        return x.node(1, n, 0, 0, 0);
-    }
-
-    private static int argument(TypeCopier x) {
-        return x.node(2, 0, 0, 0, 0);
-    }
-
-    private static int on(TypeCopier x, int kind, int a) {
-        return x.node(kind, a, 0, 0, 0);
-    }
-
-    private static int on(TypeCopier x, int kind, int a, int b) {
-        return x.node(kind, a, b, 0, 0);
-    }
-
-    private static int choose(TypeCopier x, int a, int b, int c) {
-        return x.node(5, a, b, c, 0);
-    }
-
-    private static int call(TypeCopier x, int f, int a, int t, int u) {
-        return x.node(14, f, a, t, u);
-    }
-
     // ---- promise 1
 
     private static void newObject() {
-        TypeCopier x = new TypeCopier();
+        Asked x = new Asked();
         due("1 types", x.count(0), 4);
         due("1 nodes", x.count(1), 0);
         due("1 functions", x.count(2), 0);
@@ -99,7 +69,7 @@ public final class PromiseTests {
     // ---- promises 2 to 4
 
     private static void pairs() {
-        TypeCopier x = new TypeCopier();
+        Asked x = new Asked();
         due("2 first", x.pair(0, 1), 4);
         due("2 other order", x.pair(1, 0), 5);
         due("2 like", x.pair(0, 1), 4);
@@ -114,35 +84,10 @@ public final class PromiseTests {
         due("2 depth 6 behind", x.pair(0, 8), NO);
         due("2 nothing made", x.count(0), 9);
         due("2 bad first", x.pair(8, 9), BAD);
-        fillTypes(x);
-        int shallow = 14;
-        while (x.type(shallow, 3) == 5) {
-            shallow++;
-        }
-        due("2 full", x.pair(shallow, shallow), FULL);
-        due("2 known when full", x.pair(2, 7), 8);
-        due("2 too deep when full", x.pair(8, 8), NO);
-        due("2 bad when full", x.pair(200, 8), BAD);
-    }
-
-    private static void fillTypes(TypeCopier x) {
-        for (int t = 0; t < 14; t++) {
-            for (int u = 0; u < 14; u++) {
-                if (x.count(0) < 200 && t != 8 && u != 8) {
-                    x.pair(t, u);
-                }
-            }
-        }
-        for (int t = 0; t < 200; t++) {
-            if (x.count(0) < 200) {
-                x.list(t);
-            }
-        }
-        due("2 as many as can be", x.count(0), 200);
     }
 
     private static void lists() {
-        TypeCopier x = new TypeCopier();
+        Asked x = new Asked();
         due("3 first", x.list(2), 4);
         due("3 like", x.list(2), 4);
         due("3 depth 3", x.list(4), 5);
@@ -154,20 +99,10 @@ public final class PromiseTests {
         due("3 below", x.list(-1), BAD);
         due("3 apart from pairs", x.pair(0, 0), 8);
         due("3 list of pair", x.list(8), 9);
-        fillTypes(x);
-        due("3 known when full", x.list(6), 7);
-        due("3 full", x.list(199) == FULL || x.list(199) == NO ? 1 : 0, 1);
-        due("3 too deep when full", x.list(7), NO);
-        int missing = 0;
-        for (int t = 0; t < 200; t++) {
-            missing += x.list(t) == FULL ? 1 : 0;
-        }
-        due("3 some are refused", missing > 0 ? 1 : 0, 1);
-        due("3 still 200", x.count(0), 200);
     }
 
     private static void types() {
-        TypeCopier x = new TypeCopier();
+        Asked x = new Asked();
         due("4 (A, LIST TRUTH)", x.list(1), 4);
         due("4", x.pair(2, 4), 5);
         due("4", x.pair(0, 4), 6);
@@ -189,7 +124,7 @@ public final class PromiseTests {
         due("4 below", x.type(-1, 0), BAD);
         due("4 what", x.type(0, 6), BAD);
         due("4 what below", x.type(0, -1), BAD);
-        x = new TypeCopier();
+        x = new Asked();
         due("4 wide", x.pair(0, 0), 4);
         due("4 wide", x.pair(4, 4), 5);
         due("4 wide", x.pair(5, 5), 6);
@@ -204,7 +139,7 @@ public final class PromiseTests {
     // ---- promises 5 to 7
 
     private static void nodes() {
-        TypeCopier x = new TypeCopier();
+        Asked x = new Asked();
         due("5 number", x.node(0, MIN, 99, 99, 99), 0);
         due("5 truth 0", x.node(1, 0, 99, -7, 99), 1);
         due("5 truth 1", x.node(1, 1, 0, 0, 0), 2);
@@ -244,29 +179,29 @@ public final class PromiseTests {
         due("5 kind 15", x.node(15, 0, 0, 0, 0), BAD);
         int at = 0;
         for (int depth = 2; depth <= 12; depth++) {
-            at = depth % 2 == 0 ? call(x, 3, at, 0, NONE) : choose(x, 0, 1, at);
+            at = depth % 2 == 0 ? x.call(3, at, 0, NONE) : x.choose(0, 1, at);
             due("5 depth " + depth, at >= 0 ? 1 : 0, 1);
         }
-        due("5 depth 13", on(x, 7, at), NO);
-        due("5 depth 13, second part", on(x, 6, 0, at), NO);
-        due("5 depth 13, third part", choose(x, 0, 0, at), NO);
-        due("5 depth 13, call", call(x, 0, at, NONE, NONE), NO);
+        due("5 depth 13", x.on(7, at), NO);
+        due("5 depth 13, second part", x.on(6, 0, at), NO);
+        due("5 depth 13, third part", x.choose(0, 0, at), NO);
+        due("5 depth 13, call", x.call(0, at, NONE, NONE), NO);
         due("5 deep ones that are not wanted", x.node(7, 0, at, at, at), x.count(1) - 1);
         due("5 deep ones that are not wanted", x.node(6, 0, 0, at, at), x.count(1) - 1);
         due("5 deep ones that are not wanted", x.node(9, at % 4, at, at, at), x.count(1) - 1);
         due("5 deep ones that are not wanted", x.node(0, at, at, at, at), x.count(1) - 1);
-        due("5 bad before deep", choose(x, 0, at, 500), BAD);
+        due("5 bad before deep", x.choose(0, at, 500), BAD);
         while (x.count(1) < 200) {
-            number(x, 1);
+            x.number(1);
         }
-        due("5 full", number(x, 1), FULL);
-        due("5 deep before full", on(x, 7, at), NO);
-        due("5 bad before full", truth(x, 2), BAD);
+        due("5 full", x.number(1), FULL);
+        due("5 deep before full", x.on(7, at), NO);
+        due("5 bad before full", x.truth(2), BAD);
         due("5 still 200", x.count(1), 200);
     }
 
     private static void functions() {
-        TypeCopier x = new TypeCopier();
+        Asked x = new Asked();
         due("6 letters -1", x.function(-1, 0, 0), BAD);
         due("6 letters 3", x.function(3, 0, 0), BAD);
         due("6 argument", x.function(0, 4, 0), BAD);
@@ -290,9 +225,9 @@ public final class PromiseTests {
     }
 
     private static void bodies() {
-        TypeCopier x = new TypeCopier();
+        Asked x = new Asked();
         due("7 nothing there", x.body(0, 0), BAD);
-        number(x, 1);
+        x.number(1);
         due("7 no function", x.body(0, 0), BAD);
         x.function(0, 0, 0);
         due("7 no node", x.body(0, 1), BAD);
@@ -301,7 +236,7 @@ public final class PromiseTests {
         due("7 not given", x.judge(), 2);
         due("7 given", x.body(0, 0), 1);
         due("7 right", x.judge(), 0);
-        truth(x, 1);
+        x.truth(1);
         due("7 another", x.body(0, 1), 1);
         due("7 not right", x.judge(), 3);
         due("7 back", x.body(0, 0), 1);
@@ -311,48 +246,48 @@ public final class PromiseTests {
     // ---- promises 8 and 9
 
     private static void typesIn() {
-        TypeCopier x = new TypeCopier();
+        Asked x = new Asked();
         int listA = x.list(2);
         int pairAB = x.pair(2, 3);
         int f = x.function(2, pairAB, 0);
-        int n = number(x, 5);
-        int t = truth(x, 0);
-        int a = argument(x);
+        int n = x.number(5);
+        int t = x.truth(0);
+        int a = x.argument();
         due("8 number", x.typeIn(f, n), 0);
         due("8 truth", x.typeIn(f, t), 1);
         due("8 argument", x.typeIn(f, a), pairAB);
-        due("8 add", x.typeIn(f, on(x, 3, n, n)), 0);
-        due("8 add a truth", x.typeIn(f, on(x, 3, n, t)), NONE);
-        due("8 less", x.typeIn(f, on(x, 4, n, n)), 1);
-        due("8 less of truths", x.typeIn(f, on(x, 4, t, t)), NONE);
-        due("8 if", x.typeIn(f, choose(x, t, a, a)), pairAB);
-        due("8 if on a number", x.typeIn(f, choose(x, n, a, a)), NONE);
-        due("8 if not alike", x.typeIn(f, choose(x, t, a, n)), NONE);
-        int first = on(x, 7, a);
-        int second = on(x, 8, a);
+        due("8 add", x.typeIn(f, x.on(3, n, n)), 0);
+        due("8 add a truth", x.typeIn(f, x.on(3, n, t)), NONE);
+        due("8 less", x.typeIn(f, x.on(4, n, n)), 1);
+        due("8 less of truths", x.typeIn(f, x.on(4, t, t)), NONE);
+        due("8 if", x.typeIn(f, x.choose(t, a, a)), pairAB);
+        due("8 if on a number", x.typeIn(f, x.choose(n, a, a)), NONE);
+        due("8 if not alike", x.typeIn(f, x.choose(t, a, n)), NONE);
+        int first = x.on(7, a);
+        int second = x.on(8, a);
         due("8 first", x.typeIn(f, first), 2);
         due("8 second", x.typeIn(f, second), 3);
-        due("8 first of a number", x.typeIn(f, on(x, 7, n)), NONE);
-        due("8 second of a truth", x.typeIn(f, on(x, 8, t)), NONE);
-        due("8 unnumbered", x.typeIn(f, on(x, 6, second, first)), -5);
-        due("8 pair", x.typeIn(f, on(x, 6, first, second)), pairAB);
-        int nil = on(x, 9, 2);
+        due("8 first of a number", x.typeIn(f, x.on(7, n)), NONE);
+        due("8 second of a truth", x.typeIn(f, x.on(8, t)), NONE);
+        due("8 unnumbered", x.typeIn(f, x.on(6, second, first)), -5);
+        due("8 pair", x.typeIn(f, x.on(6, first, second)), pairAB);
+        int nil = x.on(9, 2);
         due("8 nil", x.typeIn(f, nil), listA);
-        int link = on(x, 10, first, nil);
+        int link = x.on(10, first, nil);
         due("8 link", x.typeIn(f, link), listA);
-        due("8 link of another", x.typeIn(f, on(x, 10, second, nil)), NONE);
-        due("8 link to no list", x.typeIn(f, on(x, 10, first, first)), NONE);
-        due("8 empty", x.typeIn(f, on(x, 11, link)), 1);
-        due("8 head", x.typeIn(f, on(x, 12, link)), 2);
-        due("8 tail", x.typeIn(f, on(x, 13, link)), listA);
-        due("8 empty of a pair", x.typeIn(f, on(x, 11, a)), NONE);
-        due("8 head of a pair", x.typeIn(f, on(x, 12, a)), NONE);
-        due("8 tail of a number", x.typeIn(f, on(x, 13, n)), NONE);
-        due("8 a part is wrong", x.typeIn(f, on(x, 6, n, on(x, 7, n))), NONE);
-        int bad = on(x, 8, n);
-        due("8 wrong parts are not alike", x.typeIn(f, choose(x, t, bad, bad)), NONE);
+        due("8 link of another", x.typeIn(f, x.on(10, second, nil)), NONE);
+        due("8 link to no list", x.typeIn(f, x.on(10, first, first)), NONE);
+        due("8 empty", x.typeIn(f, x.on(11, link)), 1);
+        due("8 head", x.typeIn(f, x.on(12, link)), 2);
+        due("8 tail", x.typeIn(f, x.on(13, link)), listA);
+        due("8 empty of a pair", x.typeIn(f, x.on(11, a)), NONE);
+        due("8 head of a pair", x.typeIn(f, x.on(12, a)), NONE);
+        due("8 tail of a number", x.typeIn(f, x.on(13, n)), NONE);
+        due("8 a part is wrong", x.typeIn(f, x.on(6, n, x.on(7, n))), NONE);
+        int bad = x.on(8, n);
+        due("8 wrong parts are not alike", x.typeIn(f, x.choose(t, bad, bad)), NONE);
         int g = x.function(1, listA, 2);
-        due("8 nil of a letter it has not", x.typeIn(g, on(x, 9, 3)), NONE);
+        due("8 nil of a letter it has not", x.typeIn(g, x.on(9, 3)), NONE);
         due("8 in another function", x.typeIn(g, a), listA);
         due("8 nil in another", x.typeIn(g, nil), listA);
         int h = x.function(0, 0, 0);
@@ -365,97 +300,97 @@ public final class PromiseTests {
     }
 
     private static void deepTypesIn() {
-        TypeCopier x = new TypeCopier();
+        Asked x = new Asked();
         int t = 0;
         for (int depth = 2; depth <= 5; depth++) {
             t = x.list(t);
         }
         int f = x.function(0, t, 0);
-        int a = argument(x);
-        int n = number(x, 1);
+        int a = x.argument();
+        int n = x.number(1);
         due("8 depth 5", x.typeIn(f, a), t);
-        due("8 pair too deep", x.typeIn(f, on(x, 6, a, n)), NONE);
-        due("8 pair too deep behind", x.typeIn(f, on(x, 6, n, a)), NONE);
-        due("8 nil too deep", x.typeIn(f, on(x, 9, t)), NONE);
-        due("8 nil as deep as can be", x.typeIn(f, on(x, 9, x.type(t, 1))), t);
-        due("8 tail", x.typeIn(f, on(x, 13, a)), t);
-        int p = on(x, 6, n, n);
+        due("8 pair too deep", x.typeIn(f, x.on(6, a, n)), NONE);
+        due("8 pair too deep behind", x.typeIn(f, x.on(6, n, a)), NONE);
+        due("8 nil too deep", x.typeIn(f, x.on(9, t)), NONE);
+        due("8 nil as deep as can be", x.typeIn(f, x.on(9, x.type(t, 1))), t);
+        due("8 tail", x.typeIn(f, x.on(13, a)), t);
+        int p = x.on(6, n, n);
         due("8 depth 2 unnumbered", x.typeIn(f, p), -5);
-        p = on(x, 6, p, p);
-        p = on(x, 6, p, p);
-        p = on(x, 6, p, p);
+        p = x.on(6, p, p);
+        p = x.on(6, p, p);
+        p = x.on(6, p, p);
         due("8 depth 5 unnumbered", x.typeIn(f, p), -5);
-        due("8 depth 6", x.typeIn(f, on(x, 6, p, p)), NONE);
-        due("8 a part of it", x.typeIn(f, on(x, 7, p)), -5);
+        due("8 depth 6", x.typeIn(f, x.on(6, p, p)), NONE);
+        due("8 a part of it", x.typeIn(f, x.on(7, p)), -5);
         int pair = x.pair(0, 0);
         pair = x.pair(pair, pair);
         pair = x.pair(pair, pair);
-        due("8 now numbered", x.typeIn(f, on(x, 8, p)), pair);
+        due("8 now numbered", x.typeIn(f, x.on(8, p)), pair);
     }
 
     private static void typesOfCalls() {
-        TypeCopier x = new TypeCopier();
+        Asked x = new Asked();
         int listA = x.list(2);
         int pairAB = x.pair(2, 3);
         int pairBA = x.pair(3, 2);
-        int n = number(x, 5);
-        int t = truth(x, 1);
-        int nt = on(x, 6, n, t);
+        int n = x.number(5);
+        int t = x.truth(1);
+        int nt = x.on(6, n, t);
         x.function(0, 0, 0);
-        int early = call(x, 1, nt, 0, 1);
+        int early = x.call(1, nt, 0, 1);
         due("8 call of one that is not there", x.typeIn(0, early), NONE);
         x.function(2, pairAB, pairBA);
         due("8 call with two", x.typeIn(0, early), -5);
         int swapped = x.pair(1, 0);
         due("8 call with two, numbered", x.typeIn(0, early), swapped);
-        due("8 call, other way round", x.typeIn(0, call(x, 1, nt, 1, 0)), NONE);
-        due("8 call with one", x.typeIn(0, call(x, 1, nt, 0, NONE)), NONE);
-        due("8 call with none", x.typeIn(0, call(x, 1, nt, NONE, NONE)), NONE);
-        int a = argument(x);
-        int ownSwap = call(x, 1, a, 2, 3);
+        due("8 call, other way round", x.typeIn(0, x.call(1, nt, 1, 0)), NONE);
+        due("8 call with one", x.typeIn(0, x.call(1, nt, 0, NONE)), NONE);
+        due("8 call with none", x.typeIn(0, x.call(1, nt, NONE, NONE)), NONE);
+        int a = x.argument();
+        int ownSwap = x.call(1, a, 2, 3);
         due("8 call with own letters", x.typeIn(1, ownSwap), pairBA);
-        int back = call(x, 1, ownSwap, 3, 2);
+        int back = x.call(1, ownSwap, 3, 2);
         due("8 letters at once", x.typeIn(1, back), pairAB);
         due("8 letters that 0 has not", x.typeIn(0, ownSwap), NONE);
         x.function(1, 2, listA);
-        due("8 with one", x.typeIn(0, call(x, 2, n, 0, NONE)), -5);
+        due("8 with one", x.typeIn(0, x.call(2, n, 0, NONE)), -5);
         int listInt = x.list(0);
-        due("8 with one, numbered", x.typeIn(0, call(x, 2, n, 0, NONE)), listInt);
-        due("8 B is not the caller's", x.typeIn(2, call(x, 2, on(x, 8, a), 3, NONE)), NONE);
-        due("8 B is the caller's", x.typeIn(1, call(x, 2, on(x, 8, a), 3, NONE)), -5);
-        due("8 argument is wrong", x.typeIn(0, call(x, 2, on(x, 7, n), 0, NONE)), NONE);
+        due("8 with one, numbered", x.typeIn(0, x.call(2, n, 0, NONE)), listInt);
+        due("8 B is not the caller's", x.typeIn(2, x.call(2, x.on(8, a), 3, NONE)), NONE);
+        due("8 B is the caller's", x.typeIn(1, x.call(2, x.on(8, a), 3, NONE)), -5);
+        due("8 argument is wrong", x.typeIn(0, x.call(2, x.on(7, n), 0, NONE)), NONE);
         x.function(2, 2, 2);
-        due("8 unused letter is not the caller's", x.typeIn(0, call(x, 3, n, 0, 3)), NONE);
-        due("8 unused letter", x.typeIn(0, call(x, 3, n, 0, 1)), 0);
-        due("8 letters that are in no type", x.typeIn(0, call(x, x.function(1, 0, 0), n, NONE, NONE)), NONE);
-        due("8 letters that are in no type", x.typeIn(0, call(x, 4, n, 0, 0)), NONE);
-        due("8 letters that are in no type", x.typeIn(0, call(x, 4, n, 1, NONE)), 0);
-        due("8 types for no letters", x.typeIn(0, call(x, 0, n, 0, NONE)), NONE);
+        due("8 unused letter is not the caller's", x.typeIn(0, x.call(3, n, 0, 3)), NONE);
+        due("8 unused letter", x.typeIn(0, x.call(3, n, 0, 1)), 0);
+        due("8 letters that are in no type", x.typeIn(0, x.call(x.function(1, 0, 0), n, NONE, NONE)), NONE);
+        due("8 letters that are in no type", x.typeIn(0, x.call(4, n, 0, 0)), NONE);
+        due("8 letters that are in no type", x.typeIn(0, x.call(4, n, 1, NONE)), 0);
+        due("8 types for no letters", x.typeIn(0, x.call(0, n, 0, NONE)), NONE);
         int deep = x.list(x.list(x.list(listInt)));
         int takesList = x.function(1, listA, 0);
-        due("8 argument wrong, and too deep", x.typeIn(0, call(x, takesList, on(x, 7, n), deep, NONE)), NONE);
+        due("8 argument wrong, and too deep", x.typeIn(0, x.call(takesList, x.on(7, n), deep, NONE)), NONE);
         int f = x.function(0, deep, 0);
-        due("8 result too deep", x.typeIn(f, call(x, 2, a, deep, NONE)), NONE);
-        due("8 result not too deep", x.typeIn(f, call(x, 2, on(x, 12, a), x.type(deep, 1), NONE)), deep);
+        due("8 result too deep", x.typeIn(f, x.call(2, a, deep, NONE)), NONE);
+        due("8 result not too deep", x.typeIn(f, x.call(2, x.on(12, a), x.type(deep, 1), NONE)), deep);
     }
 
     private static void wrongNodes() {
-        TypeCopier x = new TypeCopier();
+        Asked x = new Asked();
         due("9 bad", x.wrong(0), BAD);
         x.function(0, 0, 0);
         due("9 bad", x.wrong(1), BAD);
         due("9 below", x.wrong(-1), BAD);
         due("9 no body", x.wrong(0), NO);
-        int n = number(x, 1);
-        int outside = on(x, 7, n);
-        int t = truth(x, 1);
-        int right = on(x, 3, n, n);
-        int low = on(x, 3, n, t);
-        int high = on(x, 4, t, n);
-        int over = on(x, 6, high, low);
+        int n = x.number(1);
+        int outside = x.on(7, n);
+        int t = x.truth(1);
+        int right = x.on(3, n, n);
+        int low = x.on(3, n, t);
+        int high = x.on(4, t, n);
+        int over = x.on(6, high, low);
         x.body(0, over);
         due("9 the least", x.wrong(0), low);
-        x.body(0, on(x, 6, right, high));
+        x.body(0, x.on(6, right, high));
         due("9 the other", x.wrong(0), high);
         x.body(0, right);
         due("9 none", x.wrong(0), NONE);
@@ -463,16 +398,16 @@ public final class PromiseTests {
         due("9 not the result, but not wrong", x.wrong(0), NONE);
         x.body(0, outside);
         due("9 itself", x.wrong(0), outside);
-        int nil = on(x, 9, 2);
-        x.body(0, choose(x, on(x, 11, nil), n, n));
+        int nil = x.on(9, 2);
+        x.body(0, x.choose(x.on(11, nil), n, n));
         due("9 without parts", x.wrong(0), nil);
-        int later = call(x, 1, n, NONE, NONE);
+        int later = x.call(1, n, NONE, NONE);
         x.body(0, later);
         due("9 call of none", x.wrong(0), later);
-        TypeCopier y = new TypeCopier();
-        on(y, 9, 2);
+        Asked y = new Asked();
+        y.on(9, 2);
         y.function(0, 0, 0);
-        y.body(0, number(y, 1));
+        y.body(0, y.number(1));
         due("9 the first node is not in it", y.wrong(0), NONE);
         x.function(0, 0, 0);
         due("9 call of one", x.wrong(0), NONE);
@@ -481,23 +416,23 @@ public final class PromiseTests {
     // ---- promises 10 and 11
 
     private static void reaching() {
-        TypeCopier x = new TypeCopier();
+        Asked x = new Asked();
         for (int f = 0; f < 4; f++) {
             x.function(0, 0, 0);
         }
-        int n = number(x, 1);
+        int n = x.number(1);
         due("10 nothing", x.reaches(0, 1), 0);
-        int deep = call(x, 1, n, NONE, NONE);
+        int deep = x.call(1, n, NONE, NONE);
         for (int i = 0; i < 5; i++) {
-            deep = on(x, 3, n, deep);
+            deep = x.on(3, n, deep);
         }
         x.body(0, deep);
         due("10 uses", x.reaches(0, 1), 1);
         due("10 not the other way", x.reaches(1, 0), 0);
-        x.body(1, call(x, 2, n, NONE, NONE));
+        x.body(1, x.call(2, n, NONE, NONE));
         due("10 over one", x.reaches(0, 2), 1);
         due("10 not itself", x.reaches(0, 0), 0);
-        x.body(2, call(x, 0, call(x, 3, n, NONE, NONE), NONE, NONE));
+        x.body(2, x.call(0, x.call(3, n, NONE, NONE), NONE, NONE));
         due("10 round", x.reaches(0, 0), 1);
         due("10 round", x.reaches(1, 0), 1);
         due("10 in an argument", x.reaches(0, 3), 1);
@@ -508,30 +443,30 @@ public final class PromiseTests {
         due("10 below", x.reaches(0, -1), BAD);
         x.body(1, n);
         due("10 no more", x.reaches(0, 2), 0);
-        x.body(0, call(x, 9, n, NONE, NONE));
+        x.body(0, x.call(9, n, NONE, NONE));
         due("10 a wrong call counts, one of none is no matter", x.reaches(0, 1), 0);
     }
 
     private static void judging() {
-        TypeCopier x = new TypeCopier();
+        Asked x = new Asked();
         due("11 no function", x.judge(), 1);
         x.function(1, 2, 2);
-        int a = argument(x);
+        int a = x.argument();
         x.body(0, a);
         due("11 letters", x.judge(), 1);
         due("11 run", x.run(), NO);
         due("11 run of copies", x.runCopies(), NO);
-        x = new TypeCopier();
+        x = new Asked();
         x.function(0, 0, 0);
         due("11 no body", x.judge(), 2);
-        int n = number(x, 1);
-        int t = truth(x, 1);
+        int n = x.number(1);
+        int t = x.truth(1);
         x.body(0, t);
         due("11 not right", x.judge(), 3);
         x.body(0, n);
         due("11 right", x.judge(), 0);
-        int later = call(x, 1, n, NONE, NONE);
-        x.body(0, on(x, 3, t, later));
+        int later = x.call(1, n, NONE, NONE);
+        x.body(0, x.on(3, t, later));
         due("11 one is not there, ahead of not right", x.judge(), 2);
         x.body(0, later);
         x.function(0, 0, 0);
@@ -544,70 +479,70 @@ public final class PromiseTests {
         due("11 one that is not reached has none", x.judge(), 0);
         x.body(2, t);
         due("11 one that is not reached is not right", x.judge(), 0);
-        x.body(1, call(x, 2, n, NONE, NONE));
+        x.body(1, x.call(2, n, NONE, NONE));
         due("11 now it is reached", x.judge(), 3);
     }
 
     private static void regular() {
-        TypeCopier x = new TypeCopier();
+        Asked x = new Asked();
         x.function(0, 0, 0);
         x.function(1, 0, 0);
         x.function(2, 0, 0);
-        int a = argument(x);
-        x.body(0, call(x, 1, a, 1, NONE));
-        int oneHandsOn = call(x, 1, a, 2, NONE);
+        int a = x.argument();
+        x.body(0, x.call(1, a, 1, NONE));
+        int oneHandsOn = x.call(1, a, 2, NONE);
         x.body(1, oneHandsOn);
         due("11 hands on", x.judge(), 0);
-        x.body(1, call(x, 1, a, 0, NONE));
+        x.body(1, x.call(1, a, 0, NONE));
         due("11 does not", x.judge(), 4);
-        int twoHandsOn = call(x, 2, a, 2, 3);
-        int twoSwaps = call(x, 2, a, 3, 2);
-        x.body(0, call(x, 2, a, 0, 1));
+        int twoHandsOn = x.call(2, a, 2, 3);
+        int twoSwaps = x.call(2, a, 3, 2);
+        x.body(0, x.call(2, a, 0, 1));
         x.body(2, twoHandsOn);
         due("11 hands on both, 1 is not reached", x.judge(), 0);
         x.body(2, twoSwaps);
         due("11 swaps", x.judge(), 4);
-        x.body(2, call(x, 2, a, 2, 2));
+        x.body(2, x.call(2, a, 2, 2));
         due("11 second is not B", x.judge(), 4);
         x.body(2, oneHandsOn);
         x.body(1, a);
         due("11 fewer, and not back", x.judge(), 0);
-        x.body(1, call(x, 2, a, 2, 2));
+        x.body(1, x.call(2, a, 2, 2));
         due("11 back with more letters", x.judge(), 4);
-        x.body(2, call(x, 1, a, 3, NONE));
+        x.body(2, x.call(1, a, 3, NONE));
         x.body(1, a);
         due("11 any types where it does not come back", x.judge(), 0);
-        x.body(1, call(x, 0, a, NONE, NONE));
+        x.body(1, x.call(0, a, NONE, NONE));
         due("11 back to 0, which has none", x.judge(), 4);
-        x.body(0, call(x, 0, a, NONE, NONE));
+        x.body(0, x.call(0, a, NONE, NONE));
         due("11 0 calls itself", x.judge(), 0);
         x.function(0, 0, 0);
-        x.body(0, call(x, 3, a, NONE, NONE));
-        x.body(3, call(x, 0, a, NONE, NONE));
+        x.body(0, x.call(3, a, NONE, NONE));
+        x.body(3, x.call(0, a, NONE, NONE));
         due("11 round without letters", x.judge(), 0);
-        x.body(3, on(x, 3, a, call(x, 1, a, 0, NONE)));
+        x.body(3, x.on(3, a, x.call(1, a, 0, NONE)));
         due("11 round over one with letters", x.judge(), 4);
-        x.body(0, call(x, 1, a, 0, NONE));
+        x.body(0, x.call(1, a, 0, NONE));
         due("11 round, 0 gives a type", x.judge(), 4);
     }
 
     // ---- promises 12 and 13
 
     private static void copying() {
-        TypeCopier x = new TypeCopier();
+        Asked x = new Asked();
         due("12 no program", x.copies(), NO);
         int listA = x.list(2);
         int listInt = x.list(0);
         x.function(0, 0, 0);
         x.function(1, 2, 2);
         x.function(1, listA, 2);
-        int a = argument(x);
+        int a = x.argument();
         x.body(1, a);
-        x.body(2, call(x, 1, on(x, 12, a), 2, NONE));
-        int n = number(x, 3);
-        int headOf = call(x, 2, on(x, 10, n, on(x, 9, 0)), 0, NONE);
-        int same = call(x, 1, truth(x, 1), 1, NONE);
-        x.body(0, choose(x, same, headOf, headOf));
+        x.body(2, x.call(1, x.on(12, a), 2, NONE));
+        int n = x.number(3);
+        int headOf = x.call(2, x.on(10, n, x.on(9, 0)), 0, NONE);
+        int same = x.call(1, x.truth(1), 1, NONE);
+        x.body(0, x.choose(same, headOf, headOf));
         due("12 copies", x.copies(), 4);
         int[][] want = {{0, NONE, NONE}, {1, 1, NONE}, {2, 0, NONE}, {1, 0, NONE}};
         for (int i = 0; i < want.length; i++) {
@@ -619,20 +554,20 @@ public final class PromiseTests {
         x.body(0, headOf);
         due("12 fewer", x.copies(), 3);
         due("13 in order", x.copy(1, 0), 2);
-        x.body(0, call(x, 1, call(x, 2, on(x, 9, 0), 0, NONE), 0, NONE));
+        x.body(0, x.call(1, x.call(2, x.on(9, 0), 0, NONE), 0, NONE));
         due("12 like ones once", x.copies(), 3);
         due("13 the argument's call first", x.copy(1, 0), 2);
         due("13 then the other", x.copy(2, 0), 1);
-        x.body(0, call(x, 0, n, NONE, NONE));
+        x.body(0, x.call(0, n, NONE, NONE));
         due("12 itself", x.copies(), 1);
-        x.body(0, truth(x, 0));
+        x.body(0, x.truth(0));
         due("12 not right", x.copies(), NO);
         due("13 not right", x.copy(0, 0), NONE);
     }
 
     /** FUNCTION 0 with so many calls of a function with two letters, no two at like types. */
-    private static TypeCopier manyCalls(int calls) {
-        TypeCopier x = new TypeCopier();
+    private static Asked manyCalls(int calls) {
+        Asked x = new Asked();
         for (int t = 0; t < 2; t++) {
             for (int u = 0; u < 2; u++) {
                 x.pair(t, u);
@@ -642,18 +577,18 @@ public final class PromiseTests {
         x.list(1);
         x.function(0, 0, 0);
         x.function(2, 0, 0);
-        int a = argument(x);
+        int a = x.argument();
         x.body(1, a);
         int[] row = new int[calls];
         int[] at = {0, 1, 4, 5, 6, 7, 8, 9};
         for (int i = 0; i < calls; i++) {
-            row[i] = call(x, 1, a, at[i / 8], at[i % 8]);
+            row[i] = x.call(1, a, at[i / 8], at[i % 8]);
         }
         int size = calls;
         while (size > 1) {
             int half = 0;
             for (int i = 0; i < size; i += 2) {
-                row[half++] = i + 1 < size ? on(x, 3, row[i], row[i + 1]) : row[i];
+                row[half++] = i + 1 < size ? x.on(3, row[i], row[i + 1]) : row[i];
             }
             size = half;
         }
@@ -663,7 +598,7 @@ public final class PromiseTests {
     }
 
     private static void copiesFull() {
-        TypeCopier x = manyCalls(59);
+        Asked x = manyCalls(59);
         due("12 sixty", x.copies(), 60);
         due("13 the last one", x.copy(59, 0), 1);
         due("13 its A", x.copy(59, 1), 9);
@@ -683,32 +618,32 @@ public final class PromiseTests {
 
     private static void copiesTooDeep() {
         for (int levels = 1; levels <= 3; levels++) {
-            TypeCopier x = new TypeCopier();
+            Asked x = new Asked();
             int listA = x.list(2);
             int deep = x.list(x.list(x.list(0)));
             x.function(0, 0, 0);
             x.function(1, 0, 0);
             x.function(1, 0, 0);
             x.function(1, 0, 0);
-            int a = argument(x);
+            int a = x.argument();
             x.body(3, a);
-            x.body(2, call(x, 3, a, levels > 2 ? listA : 2, NONE));
-            x.body(1, call(x, 2, a, listA, NONE));
-            x.body(0, call(x, 1, a, levels > 1 ? deep : 0, NONE));
+            x.body(2, x.call(3, a, levels > 2 ? listA : 2, NONE));
+            x.body(1, x.call(2, a, listA, NONE));
+            x.body(0, x.call(1, a, levels > 1 ? deep : 0, NONE));
             due("12 letter, levels " + levels, x.copies(), levels > 2 ? FULL : 4);
         }
-        TypeCopier x = new TypeCopier();
+        Asked x = new Asked();
         int listA = x.list(2);
         int deep = x.list(x.list(x.list(x.list(0))));
         x.function(0, 0, 0);
         x.function(1, 0, 0);
-        int a = argument(x);
-        int nilA = on(x, 9, 2);
-        x.body(0, call(x, 1, a, deep, NONE));
+        int a = x.argument();
+        int nilA = x.on(9, 2);
+        x.body(0, x.call(1, a, deep, NONE));
         x.body(1, a);
         due("12 as deep as can be", x.copies(), 2);
         due("13 its type", x.copy(1, 1), deep);
-        x.body(1, choose(x, on(x, 11, nilA), a, a));
+        x.body(1, x.choose(x.on(11, nilA), a, a));
         due("12 a node too deep", x.copies(), FULL);
         due("11 right all the same", x.judge(), 0);
         int pairA = x.pair(2, 2);
@@ -720,7 +655,7 @@ public final class PromiseTests {
     }
 
     private static void copyFacts() {
-        TypeCopier x = new TypeCopier();
+        Asked x = new Asked();
         int pairAB = x.pair(2, 3);
         int pairBA = x.pair(3, 2);
         int intTruth = x.pair(0, 1);
@@ -728,11 +663,11 @@ public final class PromiseTests {
         x.function(0, three, 1);
         x.function(2, pairAB, pairBA);
         x.function(1, 2, 2);
-        int a = argument(x);
-        x.body(1, on(x, 6, on(x, 8, a), on(x, 7, a)));
+        int a = x.argument();
+        x.body(1, x.on(6, x.on(8, a), x.on(7, a)));
         x.body(2, a);
-        int swapped = call(x, 1, a, 0, intTruth);
-        x.body(0, call(x, 2, on(x, 8, on(x, 7, swapped)), 1, NONE));
+        int swapped = x.call(1, a, 0, intTruth);
+        x.body(0, x.call(2, x.on(8, x.on(7, swapped)), 1, NONE));
         due("12 three", x.copies(), 3);
         int[][] want = {{0, NONE, NONE, 3, 1, three}, {1, 0, intTruth, 3, 3, three}, {2, 1, NONE, 1, 1, 1}};
         for (int i = 0; i < 3; i++) {
@@ -745,17 +680,17 @@ public final class PromiseTests {
         due("13 what", x.copy(0, 6), BAD);
         due("13 what below", x.copy(0, -1), BAD);
         due("13 what first", x.copy(MAX, MIN), BAD);
-        x = new TypeCopier();
+        x = new Asked();
         int listA = x.list(2);
         x.pair(2, 2);
         x.function(0, 0, 0);
         x.function(1, 4, 0);
         x.function(1, 2, 0);
-        a = argument(x);
-        int n = number(x, 7);
-        x.body(1, call(x, 2, a, listA, NONE));
+        a = x.argument();
+        int n = x.number(7);
+        x.body(1, x.call(2, a, listA, NONE));
         x.body(2, n);
-        x.body(0, call(x, 1, on(x, 9, 0), 0, NONE));
+        x.body(0, x.call(1, x.on(9, 0), 0, NONE));
         due("12", x.copies(), 3);
         due("13 A is not numbered", x.copy(2, 1), -5);
         due("13 argument is not numbered", x.copy(2, 5), -5);
@@ -768,7 +703,7 @@ public final class PromiseTests {
     // ---- promises 14 and 15
 
     private static void inputs() {
-        TypeCopier x = new TypeCopier();
+        Asked x = new Asked();
         due("15 empty already", x.empty(), 0);
         for (int i = 1; i <= 16; i++) {
             due("14 " + i, x.input(i * 1000), i);
@@ -779,7 +714,7 @@ public final class PromiseTests {
         due("15 none", x.count(3), 0);
         due("14 again", x.input(MIN), 1);
         x.function(0, 0, 0);
-        x.body(0, argument(x));
+        x.body(0, x.argument());
         due("16", x.run(), 0);
         due("18 the new one", x.result(0), MIN);
         due("15 one", x.empty(), 1);
@@ -790,8 +725,8 @@ public final class PromiseTests {
     // ---- promises 16 to 19
 
     /** The identity on a type, given a row: what both runs tell. */
-    private static void echo(TypeCopier x, int type, int[] given, int[] want) {
-        TypeCopier y = x;
+    private static void echo(Asked x, int type, int[] given, int[] want) {
+        Asked y = x;
         y.empty();
         for (int v : given) {
             y.input(v);
@@ -811,7 +746,7 @@ public final class PromiseTests {
     }
 
     private static void argumentsAndResults() {
-        TypeCopier x = new TypeCopier();
+        Asked x = new Asked();
         int list = x.list(0);
         int lists = x.list(list);
         int truths = x.list(1);
@@ -829,14 +764,14 @@ public final class PromiseTests {
             {{2, 1, 1, 5, 6, 0, 0, -4}, {2, 1, 1, 5, 6, 0, 0, -4}}};
         int[] typeOfRow = {0, 1, 1, 1, 2, 2, 2, 2, 2, 3, 3, 4, 5, 6};
         for (int i = 0; i < rows.length; i++) {
-            TypeCopier y = new TypeCopier();
+            Asked y = new Asked();
             y.list(0);
             y.list(4);
             y.list(1);
             y.pair(1, 4);
             y.list(y.pair(7, 0));
             y.function(0, types[typeOfRow[i]], types[typeOfRow[i]]);
-            y.body(0, argument(y));
+            y.body(0, y.argument());
             echo(y, types[typeOfRow[i]], rows[i][0], rows[i][1]);
         }
         wideArgument();
@@ -844,11 +779,11 @@ public final class PromiseTests {
 
     /** Lists of lists of pairs of four: 16 in the row, far more in the argument. */
     private static void wideArgument() {
-        TypeCopier x = new TypeCopier();
+        Asked x = new Asked();
         int four = x.pair(x.pair(0, 0), x.pair(0, 0));
         int type = x.list(x.list(four));
         x.function(0, type, type);
-        x.body(0, argument(x));
+        x.body(0, x.argument());
         int[] want = new int[69];
         want[0] = 4;
         for (int i = 0; i < 4; i++) {
@@ -870,7 +805,7 @@ public final class PromiseTests {
     }
 
     /** Gives the input, and looks at the whole result of both runs. */
-    private static void bothTell(TypeCopier x, String name, int... want) {
+    private static void bothTell(Asked x, String name, int... want) {
         for (int turn = 0; turn < 2; turn++) {
             due(name + ", outcome", turn == 0 ? x.run() : x.runCopies(), 0);
             due(name + ", how many", x.told(0), want.length);
@@ -881,7 +816,7 @@ public final class PromiseTests {
     }
 
     private static void wideValues() {
-        TypeCopier x = new TypeCopier();
+        Asked x = new Asked();
         int three = x.pair(0, x.pair(0, 1));
         int two = x.pair(0, 0);
         int twos = x.list(two);
@@ -895,47 +830,47 @@ public final class PromiseTests {
         for (int v : new int[] {11, 12, 1, 2, 21, 22, 31, 32}) {
             x.input(v);
         }
-        int a = argument(x);
-        int first = on(x, 7, a);
-        int second = on(x, 8, a);
-        x.body(1, on(x, 6, second, first));
-        x.body(0, call(x, 1, a, three, twos));
+        int a = x.argument();
+        int first = x.on(7, a);
+        int second = x.on(8, a);
+        x.body(1, x.on(6, second, first));
+        x.body(0, x.call(1, a, three, twos));
         bothTell(x, "swapped at wide types", 2, 21, 22, 31, 32, 11, 12, 1);
-        int there = call(x, 1, a, three, twos);
-        int back = call(x, 1, there, twos, three);
-        x.body(0, call(x, 1, back, three, twos));
+        int there = x.call(1, a, three, twos);
+        int back = x.call(1, there, twos, three);
+        x.body(0, x.call(1, back, three, twos));
         bothTell(x, "and back, and again", 2, 21, 22, 31, 32, 11, 12, 1);
-        int head = on(x, 12, second);
-        int turned = on(x, 6, on(x, 8, head), on(x, 7, head));
-        int links = on(x, 10, turned, on(x, 13, second));
-        x.body(0, on(x, 6, on(x, 10, head, links), first));
+        int head = x.on(12, second);
+        int turned = x.on(6, x.on(8, head), x.on(7, head));
+        int links = x.on(10, turned, x.on(13, second));
+        x.body(0, x.on(6, x.on(10, head, links), first));
         bothTell(x, "links of wide values", 3, 21, 22, 22, 21, 31, 32, 11, 12, 1);
-        int made = on(x, 6, on(x, 7, on(x, 12, on(x, 13, second))), on(x, 8, first));
-        x.body(0, on(x, 6, second, made));
+        int made = x.on(6, x.on(7, x.on(12, x.on(13, second))), x.on(8, first));
+        x.body(0, x.on(6, second, made));
         bothTell(x, "parts of parts", 2, 21, 22, 31, 32, 31, 12, 1);
-        int chosen = choose(x, on(x, 8, on(x, 8, made)), made, first);
-        x.body(0, on(x, 6, on(x, 9, two), chosen));
+        int chosen = x.choose(x.on(8, x.on(8, made)), made, first);
+        x.body(0, x.on(6, x.on(9, two), chosen));
         bothTell(x, "chosen", 0, 31, 12, 1);
-        x.body(2, on(x, 6, on(x, 8, first), made));
-        int called = call(x, 2, a, NONE, NONE);
-        x.body(0, on(x, 6, on(x, 10, on(x, 7, on(x, 6, on(x, 6, number(x, 5), number(x, 6)), called)), second), on(x, 8, called)));
+        x.body(2, x.on(6, x.on(8, first), made));
+        int called = x.call(2, a, NONE, NONE);
+        x.body(0, x.on(6, x.on(10, x.on(7, x.on(6, x.on(6, x.number(5), x.number(6)), called)), second), x.on(8, called)));
         bothTell(x, "parts of what is called", 3, 5, 6, 21, 22, 31, 32, 31, 12, 1);
         sixteenCells();
     }
 
     private static void sixteenCells() {
-        TypeCopier y = new TypeCopier();
+        Asked y = new Asked();
         int pairII = y.pair(0, 0);
         int four = y.pair(pairII, pairII);
         int eight = y.pair(four, four);
         int sixteen = y.pair(eight, eight);
         y.function(0, 0, sixteen);
         y.function(1, 2, y.pair(2, 2));
-        int a = argument(y);
-        y.body(1, on(y, 6, a, a));
-        int d = call(y, 1, a, 0, NONE);
-        d = on(y, 6, on(y, 7, d), on(y, 3, number(y, 1), on(y, 8, d)));
-        d = call(y, 1, call(y, 1, call(y, 1, d, pairII, NONE), four, NONE), eight, NONE);
+        int a = y.argument();
+        y.body(1, y.on(6, a, a));
+        int d = y.call(1, a, 0, NONE);
+        d = y.on(6, y.on(7, d), y.on(3, y.number(1), y.on(8, d)));
+        d = y.call(1, y.call(1, y.call(1, d, pairII, NONE), four, NONE), eight, NONE);
         y.body(0, d);
         y.input(8);
         due("12 copies at each width", y.copies(), 5);
@@ -945,17 +880,17 @@ public final class PromiseTests {
     }
 
     private static void runs() {
-        TypeCopier x = new TypeCopier();
+        Asked x = new Asked();
         int pair = x.pair(0, 0);
         x.function(0, pair, 0);
-        int a = argument(x);
-        int sum = on(x, 3, on(x, 7, a), on(x, 8, a));
+        int a = x.argument();
+        int sum = x.on(3, x.on(7, a), x.on(8, a));
         x.body(0, sum);
         x.input(MAX);
         x.input(2);
         both(x, 0, MIN + 1, 5, 0, 1);
-        int less = on(x, 4, on(x, 7, a), on(x, 8, a));
-        x.body(0, choose(x, less, number(x, 1), number(x, 2)));
+        int less = x.on(4, x.on(7, a), x.on(8, a));
+        x.body(0, x.choose(less, x.number(1), x.number(2)));
         both(x, 0, 2, 7, 0, 1);
         x.empty();
         x.input(MIN);
@@ -970,22 +905,22 @@ public final class PromiseTests {
         due("16 160 in all", made, 156);
         due("16 full", x.run(), FULL);
         due("17 goes on", x.runCopies(), 0);
-        x.body(0, truth(x, 1));
+        x.body(0, x.truth(1));
         due("16 NO is ahead of FULL", x.run(), NO);
-        x.body(0, number(x, 4));
+        x.body(0, x.number(4));
         due("16 still full", x.run(), FULL);
         due("17 and goes on", x.runCopies(), 0);
         due("18 its result", x.result(0), 4);
-        TypeCopier y = new TypeCopier();
+        Asked y = new Asked();
         for (int i = 0; i < 200; i++) {
             due("16 refused", y.run(), NO);
         }
         y.function(0, 0, 0);
-        y.body(0, number(y, 8));
+        y.body(0, y.number(8));
         due("16 refused ones do not count", y.run(), 0);
     }
 
-    private static void both(TypeCopier x, int outcome, int result, int steps, int links, int open) {
+    private static void both(Asked x, int outcome, int result, int steps, int links, int open) {
         for (int turn = 0; turn < 2; turn++) {
             String name = turn == 0 ? "16 run, " : "17 run of copies, ";
             due(name + "outcome", turn == 0 ? x.run() : x.runCopies(), outcome);
@@ -999,56 +934,56 @@ public final class PromiseTests {
     }
 
     private static void outcomes() {
-        TypeCopier x = new TypeCopier();
+        Asked x = new Asked();
         int list = x.list(0);
         int pair = x.pair(0, list);
         x.function(0, pair, 0);
-        int a = argument(x);
-        int tail = on(x, 8, a);
-        int head = on(x, 12, tail);
-        x.body(0, on(x, 3, on(x, 7, a), head));
+        int a = x.argument();
+        int tail = x.on(8, a);
+        int head = x.on(12, tail);
+        x.body(0, x.on(3, x.on(7, a), head));
         both(x, 1, 0, 6, 0, 1);
         x.input(30);
         x.input(1);
         x.input(12);
         both(x, 0, 42, 6, 0, 1);
-        int tailTail = on(x, 13, on(x, 13, tail));
-        x.body(0, choose(x, on(x, 11, tailTail), head, head));
+        int tailTail = x.on(13, x.on(13, tail));
+        x.body(0, x.choose(x.on(11, tailTail), head, head));
         both(x, 1, 0, 6, 0, 1);
-        int one = on(x, 13, tail);
-        x.body(0, choose(x, on(x, 11, one), head, on(x, 12, one)));
+        int one = x.on(13, tail);
+        x.body(0, x.choose(x.on(11, one), head, x.on(12, one)));
         both(x, 0, 12, 8, 0, 1);
         due("19 bad", x.told(5), BAD);
         due("19 bad below", x.told(-1), BAD);
         // Left to right: a LINK is made ahead of the HEAD that fails, none behind it.
-        int made = on(x, 12, on(x, 10, number(x, 1), on(x, 9, 0)));
-        int fails = on(x, 12, on(x, 9, 0));
-        x.body(0, on(x, 3, made, fails));
+        int made = x.on(12, x.on(10, x.number(1), x.on(9, 0)));
+        int fails = x.on(12, x.on(9, 0));
+        x.body(0, x.on(3, made, fails));
         both(x, 1, 0, 7, 1, 1);
-        x.body(0, on(x, 3, fails, made));
+        x.body(0, x.on(3, fails, made));
         both(x, 1, 0, 3, 0, 1);
     }
 
-    private static int sumOf(TypeCopier x, int levels) {
-        int n = number(x, 1);
+    private static int sumOf(Asked x, int levels) {
+        int n = x.number(1);
         for (int i = 1; i < levels; i++) {
-            n = on(x, 3, n, n);
+            n = x.on(3, n, n);
         }
         return n;
     }
 
     private static void steps() {
-        TypeCopier x = new TypeCopier();
+        Asked x = new Asked();
         x.function(0, 0, 0);
         int three = sumOf(x, 2);
         int fifteen = sumOf(x, 4);
         int sixtyThree = sumOf(x, 6);
         int most = sumOf(x, 9);
-        int eight = on(x, 7, on(x, 6, three, three));
-        int nine = choose(x, truth(x, 0), three, sumOf(x, 3));
-        x.body(0, on(x, 3, most, on(x, 3, sixtyThree, on(x, 3, fifteen, eight))));
+        int eight = x.on(7, x.on(6, three, three));
+        int nine = x.choose(x.truth(0), three, sumOf(x, 3));
+        x.body(0, x.on(3, most, x.on(3, sixtyThree, x.on(3, fifteen, eight))));
         both(x, 0, 256 + 32 + 8 + 2, 600, 0, 1);
-        x.body(0, on(x, 3, most, on(x, 3, sixtyThree, on(x, 3, fifteen, nine))));
+        x.body(0, x.on(3, most, x.on(3, sixtyThree, x.on(3, fifteen, nine))));
         both(x, 2, 0, 601, 0, 1);
         due("19 none told", x.told(0), 0);
         x.body(0, sumOf(x, 12));
@@ -1056,19 +991,19 @@ public final class PromiseTests {
     }
 
     private static void links() {
-        TypeCopier x = new TypeCopier();
+        Asked x = new Asked();
         int list = x.list(0);
         x.function(0, list, list);
         x.function(0, list, list);
-        int a = argument(x);
+        int a = x.argument();
         int chain = a;
         for (int i = 0; i < 10; i++) {
-            chain = on(x, 10, number(x, i), chain);
+            chain = x.on(10, x.number(i), chain);
         }
         x.body(1, chain);
         int calls = a;
         for (int i = 0; i < 10; i++) {
-            calls = call(x, 1, calls, NONE, NONE);
+            calls = x.call(1, calls, NONE, NONE);
         }
         x.body(0, calls);
         x.input(2);
@@ -1085,22 +1020,22 @@ public final class PromiseTests {
             due("19 steps", x.told(1), 221);
             due("19 open", x.told(3), 2);
         }
-        x.body(0, on(x, 10, number(x, 5), calls));
+        x.body(0, x.on(10, x.number(5), calls));
         both(x, 4, 0, 223, 101, 2);
         // The parts of a 101st LINK are worked ahead of it.
-        int fails = on(x, 12, on(x, 9, 0));
-        x.body(0, on(x, 10, fails, calls));
+        int fails = x.on(12, x.on(9, 0));
+        x.body(0, x.on(10, fails, calls));
         both(x, 1, 0, 3, 0, 1);
     }
 
     private static void openFunctions() {
-        TypeCopier x = new TypeCopier();
+        Asked x = new Asked();
         x.function(0, 0, 0);
         x.function(1, 0, 0);
-        int a = argument(x);
-        int down = call(x, 1, on(x, 3, a, number(x, -1)), 2, NONE);
-        x.body(1, choose(x, on(x, 4, a, number(x, 1)), number(x, 77), down));
-        x.body(0, call(x, 1, a, 1, NONE));
+        int a = x.argument();
+        int down = x.call(1, x.on(3, a, x.number(-1)), 2, NONE);
+        x.body(1, x.choose(x.on(4, a, x.number(1)), x.number(77), down));
+        x.body(0, x.call(1, a, 1, NONE));
         x.input(28);
         both(x, 0, 77, 2 + 28 * 8 + 5, 0, 30);
         x.empty();
@@ -1110,23 +1045,23 @@ public final class PromiseTests {
         both(x, 0, 77, 7, 0, 2);
         // A CALL's argument is worked ahead of it, at 30 open too.
         int list = x.list(0);
-        int fails = call(x, 1, on(x, 12, on(x, 9, 0)), 2, NONE);
-        x.body(1, choose(x, on(x, 4, a, number(x, 1)), fails, down));
+        int fails = x.call(1, x.on(12, x.on(9, 0)), 2, NONE);
+        x.body(1, x.choose(x.on(4, a, x.number(1)), fails, down));
         x.input(28);
         both(x, 1, 0, 2 + 28 * 8 + 4 + 3, 0, 30);
         due("a list", list, 4);
     }
 
     private static void latestRun() {
-        TypeCopier x = new TypeCopier();
+        Asked x = new Asked();
         due("18 before any", x.result(0), 0);
         x.function(0, 0, 0);
-        int a = argument(x);
-        x.body(0, on(x, 3, a, a));
+        int a = x.argument();
+        x.body(0, x.on(3, a, a));
         x.input(4);
         due("16", x.run(), 0);
         due("18", x.result(0), 8);
-        x.body(0, on(x, 7, a));
+        x.body(0, x.on(7, a));
         due("16 refused", x.run(), NO);
         due("17 refused", x.runCopies(), NO);
         due("18 the latest that was not", x.result(0), 8);
@@ -1138,7 +1073,7 @@ public final class PromiseTests {
         due("17", x.runCopies(), 0);
         due("18 that of the copies", x.result(0), 5);
         due("19 that of the copies", x.told(1), 1);
-        x.body(0, on(x, 12, on(x, 9, 0)));
+        x.body(0, x.on(12, x.on(9, 0)));
         due("16", x.run(), 1);
         due("18 none", x.result(0), 0);
         due("19 none", x.told(0), 0);
@@ -1148,12 +1083,12 @@ public final class PromiseTests {
     // ---- promises 20 and 21
 
     private static void counts() {
-        TypeCopier x = new TypeCopier();
+        Asked x = new Asked();
         x.list(0);
         x.pair(0, 0);
-        number(x, 1);
-        number(x, 1);
-        number(x, 1);
+        x.number(1);
+        x.number(1);
+        x.number(1);
         x.function(0, 0, 0);
         x.input(3);
         x.input(3);
@@ -1166,7 +1101,7 @@ public final class PromiseTests {
     }
 
     private static void digests() {
-        TypeCopier x = new TypeCopier();
+        Asked x = new Asked();
         long h = 61;
         int[] start = {0, -1, -1, 1, 1, -1, -1, 1, 2, -1, -1, 1, 3, -1, -1, 1};
         for (int v : start) {
