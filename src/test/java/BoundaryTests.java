@@ -123,13 +123,14 @@ public final class BoundaryTests {
         return x;
     }
 
+    private static final int[] PAIRED = {0, 1, 2, 3, 4, 5, 6, 8, 9, 10, 11, 12, 13, 15};
+
     /** The LISTS of lists(), and PAIRS, so that so many are missing of 200. */
     private static Asked manyTypes(int missing) {
         Asked x = lists();
-        int[] parts = {0, 1, 2, 3, 4, 5, 6, 8, 9, 10, 11, 12, 13, 15};
         int made = 8;
-        for (int t : parts) {
-            for (int u : parts) {
+        for (int t : PAIRED) {
+            for (int u : PAIRED) {
                 if (made < 200 - missing) {
                     due("a PAIR", x.pair(t, u), made);
                     made++;
@@ -284,7 +285,9 @@ public final class BoundaryTests {
 
     private static void factsOfTypes() {
         sentence("4", "BAD", BoundaryTests::badFacts);
+        sentence("4", "0 what it is", BoundaryTests::kindsOfTypes);
         sentence("4", "1, 2 its parts' numbers (NONE)", BoundaryTests::partsOfTypes);
+        sentence("4", "its parts' numbers, of 200 TYPES", BoundaryTests::partsOfAllTypes);
         sentence("4", "DEPTH: of the first four 1; else 1 more than the deeper part's", BoundaryTests::depthsOfTypes);
         sentence("4", "WIDTH (NONE: it has LETTERS)", BoundaryTests::widthsOfTypes);
         sentence("4", "which LETTERS it has (1 A, 2 B, 3 both)", BoundaryTests::lettersOfTypes);
@@ -311,6 +314,22 @@ public final class BoundaryTests {
         }
     }
 
+    private static void kindsOfTypes() {
+        factDue(0, 0, 1, 2, 3, 4, 5, 4, 5, 4, 4, 4, 4);
+    }
+
+    private static void partsOfAllTypes() {
+        for (int what = 0; what <= 2; what++) {
+            Asked x = allTypes();
+            for (int made = 8; made < 200; made++) {
+                int first = (made - 8) / PAIRED.length;
+                int second = (made - 8) % PAIRED.length;
+                due("type(" + made + ", " + what + ")", x.type(made, what), new int[] {4, PAIRED[first], PAIRED[second]}[what]);
+            }
+            due("once more", x.pair(15, 10), 199);
+        }
+    }
+
     private static void partsOfTypes() {
         factDue(1, NONE, NONE, NONE, NONE, 2, 4, 0, 0, 0, 8, 9, 10);
         factDue(2, NONE, NONE, NONE, NONE, 3, NONE, 5, NONE, 0, 8, 9, 10);
@@ -321,6 +340,19 @@ public final class BoundaryTests {
         Asked x = someTypes();
         due("deeper at the left", x.type(x.pair(5, 0), 3), 4);
         due("deeper at the right", x.type(x.pair(4, 9), 3), 4);
+        Asked y = new Asked();
+        int t = 3;
+        for (int depth = 2; depth <= 5; depth++) {
+            int half = t;
+            t = y.pair(half, half);
+            due("B alone in halves of halves", t, depth + 2);
+            due("its DEPTH", y.type(t, 3), depth);
+            due("its half", y.type(t, 1), half);
+            due("its half", y.type(t, 2), half);
+            due("its LETTERS", y.type(t, 5), 2);
+            due("once more", y.pair(half, half), t);
+        }
+        due("DEPTH 6", y.pair(t, t), NO);
     }
 
     private static void widthsOfTypes() {
@@ -1063,6 +1095,13 @@ public final class BoundaryTests {
         due("a deep BODY with none", y.wrong(0), NONE);
         y.body(0, deep);
         due("at DEPTH 2 of 12", y.wrong(0), 2);
+        int nil = y.on(9, 2);
+        int leaf = y.on(11, nil);
+        for (int depth = 3; depth <= 12; depth++) {
+            leaf = y.choose(leaf, n, n);
+        }
+        y.body(0, leaf);
+        due("eleven NODES above it", y.wrong(0), nil);
     }
 
     // ---- promise 10
@@ -1165,6 +1204,7 @@ public final class BoundaryTests {
         sentence("11", "3 one is not RIGHT", BoundaryTests::judgedNotRight);
         sentence("11", "4 it is not REGULAR: f's LETTERS in order as its TYPES", BoundaryTests::judgedByOrder);
         sentence("11", "4 it is not REGULAR: f having no fewer", BoundaryTests::judgedByFewer);
+        sentence("11", "4 it is not REGULAR: FUNCTION 0 having none", BoundaryTests::judgedAtFunction0);
         sentence("11", "4 it is not REGULAR: where g REACHES f (or is it)", BoundaryTests::judgedByReaching);
         sentence("11", "each looked at for all before the next", BoundaryTests::judgedInOrder);
     }
@@ -1288,6 +1328,19 @@ public final class BoundaryTests {
                 x.body(2, callAt(x, 1, f, g > 0 ? 2 : 0, g > 1 ? 3 : 0));
                 due("LETTERS " + f + " calls " + g + ", and back", x.judge(), f == g ? 0 : 4);
             }
+        }
+    }
+
+    private static void judgedAtFunction0() {
+        for (int letters = 0; letters <= 2; letters++) {
+            Asked x = calling(letters);
+            int call = x.count(1) - 1;
+            x.body(1, x.call(0, 0));
+            due("0 calls LETTERS " + letters + ", which calls 0", x.judge(), letters == 0 ? 0 : 4);
+            x.body(0, x.on(3, 0, x.on(3, call, 0)));
+            due("the same, deep", x.judge(), letters == 0 ? 0 : 4);
+            x.body(0, x.call(0, 0));
+            due("0 calls itself alone", x.judge(), 0);
         }
     }
 
@@ -1463,6 +1516,14 @@ public final class BoundaryTests {
             x.body(0, x.call(2, 0));
             due("one that is not REACHED", x.copies(), 2);
         }
+        Asked z = atDepth(5);
+        int over = z.choose(z.on(11, z.on(9, 2)), 0, 0);
+        for (int depth = 4; depth <= 12; depth++) {
+            over = z.on(3, over, 0);
+        }
+        due("its BODY becomes it", z.body(1, over), 1);
+        due("RIGHT", z.judge(), 0);
+        due("eleven NODES above it", z.copies(), FULL);
         Asked y = atDepth(5);
         y.body(1, y.choose(y.on(11, y.on(9, 2)), 0, 0));
         refusedCopies("a NODE of DEPTH 6", () -> {
@@ -1699,6 +1760,20 @@ public final class BoundaryTests {
         due("copies()", x.copies(), 3);
         due("argument of 8", x.copy(1, 3), 8);
         due("result of 16", x.copy(1, 4), 16);
+        x.function(2, 3, 2);
+        x.function(2, 2, 3);
+        x.body(3, x.on(12, x.on(9, 2)));
+        x.body(4, x.on(12, x.on(9, 3)));
+        int three = x.call(3, x.on(7, x.on(7, a)), 8, 9);
+        int four = x.call(4, x.on(7, three), 0, 9);
+        x.body(0, x.choose(x.on(4, x.on(7, x.on(7, four)), x.number(1)), nil, nil));
+        due("copies()", x.copies(), 3);
+        int[][] want = {{0, NONE, NONE, 16, 1, 11}, {3, 8, 9, 4, 2, 9}, {4, 0, 9, 1, 4, 0}};
+        for (int i = 0; i < 3; i++) {
+            for (int what = 0; what <= 5; what++) {
+                due("copy(" + i + ", " + what + ")", x.copy(i, what), want[i][what]);
+            }
+        }
     }
 
     private static void copyUnnumbered() {

@@ -61,9 +61,30 @@ public final class FaceTests {
         String constant = "public static final int ";
         demand(fields.equals(Set.of(constant + "NONE", constant + "BAD", constant + "NO", constant + "FULL")),
             "constants are " + fields);
+        int[] constants = {TypeCopier.NONE, TypeCopier.BAD, TypeCopier.NO, TypeCopier.FULL};
+        for (int i = 0; i < constants.length; i++) {
+            demand(constants[i] == -1 - i, "constant " + i + " is " + (-1 - i) + ", not " + constants[i]);
+        }
+        for (Method m : c.getDeclaredMethods()) {
+            if (Modifier.isPrivate(m.getModifiers())) {
+                demand(wanted.stream().noneMatch(w -> w.split(" ")[1].equals(m.getName())), m + " bears no name of the face");
+            }
+        }
+        staticFields(c);
         Constructor<?>[] made = c.getDeclaredConstructors();
         demand(made.length == 1 && Modifier.isPublic(made[0].getModifiers()) && made[0].getParameterCount() == 0,
             "one public constructor");
+    }
+
+    private static void staticFields(Class<?> c) {
+        Set<Class<?>> allowed = Set.of(int.class, long.class, boolean.class, char.class, String.class, int[].class,
+            long[].class, char[].class, byte[].class);
+        for (Field f : c.getDeclaredFields()) {
+            if (Modifier.isStatic(f.getModifiers())) {
+                demand(Modifier.isFinal(f.getModifiers()) && allowed.contains(f.getType()), f + " is a constant");
+                demand(!f.getType().isArray() || Modifier.isPrivate(f.getModifiers()), f + " is an array that none can change");
+            }
+        }
     }
 
     private static void nested() {
@@ -78,10 +99,10 @@ public final class FaceTests {
         for (Class<?> c : inside) {
             demand(Modifier.isStatic(c.getModifiers()), c + " is static");
             demand(!Modifier.isPublic(c.getModifiers()) && !Modifier.isProtected(c.getModifiers()), c + " is not public");
+            staticFields(c);
             int fields = 0;
             for (Field f : c.getDeclaredFields()) {
                 fields += Modifier.isStatic(f.getModifiers()) ? 0 : 1;
-                demand(!Modifier.isStatic(f.getModifiers()) || Modifier.isFinal(f.getModifiers()), f + " is final");
             }
             demand(fields <= 20, c + " has some twenty fields, not " + fields);
             for (Method m : c.getDeclaredMethods()) {
@@ -108,6 +129,7 @@ public final class FaceTests {
             demand(Set.of("java.util.Arrays", "java.util.ArrayList", "java.util.List").contains(imports.group(1)),
                 "import of " + imports.group(1));
         }
+        demand(text.chars().allMatch(sign -> sign == '\n' || sign >= 32 && sign <= 126), "no sign beyond 126 in the source");
         methodLengths(text.split("\n"));
     }
 

@@ -474,6 +474,9 @@ public final class RunBoundaryTests {
         sentence("16", "Parts are worked from left to right", RunBoundaryTests::leftToRight);
         sentence("16", "Each NODE that is worked is a STEP", RunBoundaryTests::eachIsAStep);
         sentence("17", "values lying flat in cells as WIDTHS tell", RunBoundaryTests::widestValues);
+        sentence("17", "FIRST, SECOND: its part, in cells", RunBoundaryTests::partsInCells);
+        sentence("17", "DEPTH 12, in cells", RunBoundaryTests::deepestInCells);
+        sentence("17", "TYPES for both LETTERS, in cells", RunBoundaryTests::lettersInCells);
     }
 
     private static Asked overTwo(int kind, int result) {
@@ -602,6 +605,60 @@ public final class RunBoundaryTests {
         bothTell("halves of 16 that go through LINKS and CALLS", x, want);
     }
 
+    private static void partsInCells() {
+        Asked x = new Asked();
+        int two = x.pair(0, 0);
+        int left = x.pair(two, 0);
+        x.function(0, x.pair(left, two), 0);
+        int a = x.argument();
+        int[][] ways = {{7, 7, 7}, {7, 7, 8}, {7, 8}, {8, 7}, {8, 8}};
+        give(x, 1, 2, 3, 4, 5);
+        for (int i = 0; i < ways.length; i++) {
+            int at = a;
+            for (int kind : ways[i]) {
+                at = x.on(kind, at);
+            }
+            x.body(0, at);
+            bothTell("cell " + i, x, i + 1);
+        }
+    }
+
+    private static void deepestInCells() {
+        Asked x = new Asked();
+        x.function(0, x.pair(0, 0), 0);
+        int a = x.argument();
+        int none = x.number(0);
+        give(x, 5, 6);
+        for (int kind = 7; kind <= 8; kind++) {
+            int at = x.on(kind, a);
+            for (int depth = 3; depth <= 12; depth++) {
+                at = depth % 2 == 0 ? x.on(3, none, at) : x.on(3, at, none);
+            }
+            due("DEPTH 13", x.on(3, at, none), NO);
+            due("its BODY becomes it", x.body(0, at), 1);
+            bothTell("a PAIR that ten sums stand above", x, kind - 2);
+        }
+    }
+
+    private static void lettersInCells() {
+        Asked x = new Asked();
+        int pairAB = x.pair(2, 3);
+        int pairBA = x.pair(3, 2);
+        int two = x.pair(0, 0);
+        int three = x.pair(0, two);
+        int start = x.pair(two, three);
+        x.function(0, start, x.pair(three, two));
+        x.function(2, pairAB, pairBA);
+        int a = x.argument();
+        x.body(1, x.on(6, x.on(8, a), x.on(7, a)));
+        x.body(0, x.call(1, a, two, three));
+        give(x, 1, 2, 3, 4, 5);
+        bothTell("B ahead of A", x, 3, 4, 5, 1, 2);
+        x.body(0, x.call(1, x.call(1, x.call(1, a, two, three), three, two), two, three));
+        bothTell("three times", x, 3, 4, 5, 1, 2);
+        due("copies()", x.copies(), 3);
+    }
+
     // ---- promises 16 and 17: OUTCOMES
 
     private static void outcomes() {
@@ -614,6 +671,7 @@ public final class RunBoundaryTests {
         sentence("16", "4 a 101st LINK that is made", RunBoundaryTests::linksFull);
         sentence("16", "4 its parts being worked", RunBoundaryTests::linksAfterParts);
         sentence("16", "by an OUTCOME: the one that comes first", RunBoundaryTests::firstOutcome);
+        sentence("16", "a RUN is called anew, whatever OUTCOME others had", RunBoundaryTests::runsAnew);
     }
 
     private static Asked overList(int kind, int result) {
@@ -811,6 +869,39 @@ public final class RunBoundaryTests {
         x.body(0, x.on(10, taking(x, step - ahead, 1), x.choose(x.on(11, hundred), nil, nil)));
         due("judge()", x.judge(), 0);
         return x;
+    }
+
+    /** Runs that end with many values waiting leave nothing to those that follow. */
+    private static void runsAnew() {
+        Asked x = new Asked();
+        int t = x.pair(0, 0);
+        t = x.pair(t, t);
+        t = x.pair(t, t);
+        x.list(t);
+        x.function(0, t, 0);
+        x.function(0, t, t);
+        int a = x.argument();
+        int ends = x.on(7, x.on(7, x.on(7, a)));
+        int waits = x.on(7, x.on(6, a, x.call(1, a)));
+        x.body(1, waits);
+        int fails = x.on(7, x.on(7, x.on(7, x.call(1, a))));
+        give(x, 6, 5);
+        x.body(0, ends);
+        bothTell("ahead of all", x, 6);
+        for (int turn = 0; turn < 100; turn++) {
+            x.body(0, fails);
+            due("run() that fails", x.run(), 3);
+            due("runCopies() that fails", x.runCopies(), 3);
+        }
+        due("FUNCTIONS open", x.told(3), 30);
+        x.body(0, x.on(3, ends, ends));
+        bothTell("behind them", x, 12);
+        x.body(0, x.on(12, x.on(9, 0)));
+        due("run() that fails", x.run(), 1);
+        due("runCopies() that fails", x.runCopies(), 1);
+        x.body(0, ends);
+        bothTell("behind these", x, 6);
+        bothEnd("behind these", x, 0, 4, 0, 1);
     }
 
     // ---- promises 18 and 19
