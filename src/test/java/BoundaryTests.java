@@ -433,6 +433,7 @@ public final class BoundaryTests {
         sentence("5", "BAD: its TYPES t (c), u (d), which may be NONE", BoundaryTests::badCallTypes);
         sentence("5", "but u alone may not be there", BoundaryTests::secondTypeAlone);
         sentence("5", "what is not wanted is not looked at", BoundaryTests::notWanted);
+        sentence("5", "what is not wanted is no part", BoundaryTests::notWantedIsNoPart);
         sentence("5", "NUMBER's n is a", BoundaryTests::numbers);
         sentence("5", "NO: it would be too deep", BoundaryTests::nodesTooDeep);
         sentence("5", "DEPTH: of one without parts 1; else 1 more than the deepest part's", BoundaryTests::depthsOfNodes);
@@ -533,6 +534,30 @@ public final class BoundaryTests {
             }
             due("digest()", x.digest(), like.digest());
         }
+    }
+
+    /** NODE 1 is a CALL of FUNCTION 1, NODE 2 a NODE that is WRONG; both stand where they are not wanted. */
+    private static void notWantedIsNoPart() {
+        Asked x = new Asked();
+        for (int f = 0; f < 3; f++) {
+            x.function(0, 0, 0);
+        }
+        x.argument();
+        x.call(1, 0);
+        x.on(7, 0);
+        for (int kind = 0; kind <= 13; kind++) {
+            int wants = kind == 2 ? 0 : Math.max(1, PARTS[kind]);
+            for (int v = 1; v <= 2; v++) {
+                int n = x.node(kind, wants > 0 ? 0 : v, wants > 1 ? 0 : v, wants > 2 ? 0 : v, v);
+                due("its BODY becomes it", x.body(0, n), 1);
+                due("kind " + kind + " over a CALL that is not wanted", x.reaches(0, 1), 0);
+                due("kind " + kind + " over one that is WRONG and not wanted", x.wrong(0), x.typeIn(0, n) == NONE ? n : NONE);
+            }
+        }
+        x.body(0, x.call(2, 0, 1, 1));
+        due("a CALL of 2, with TYPES 1", x.reaches(0, 1), 0);
+        x.body(0, x.call(2, 0, NONE, NONE));
+        due("a CALL of 2, where NODE 2 is WRONG", x.wrong(0), NONE);
     }
 
     private static void numbers() {
